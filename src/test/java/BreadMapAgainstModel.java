@@ -358,7 +358,8 @@ public final class BreadMapAgainstModel {
         static void spoil(Random r, StringBuilder text, List<String> parts) {
             int at = r.nextInt(text.length() + 1);
             String[] bits = {";", "<", "row ", "wide 3;", "copies 2;", "end;", "12345", "9", "0", "x", "p", "\t", "A", "\u00ff",
-                "company a at 0 0 to 0 0;", "rise 0 0 by 9;", "row pp;", "stop;", "when ", "loop 3;", "at", "by 1", "abcdefghi ", "-"};
+                "company a at 0 0 to 0 0;", "rise 0 0 by 9;", "row pp;", "stop;", "when ", "loop 3;", "at", "by 1", "abcdefghi ", "-",
+                "loop 2;loop 2;loop 2;", "loop 1;loop 1;loop 1;loop 1;", "8", "100", "13", "3 ", "zz", "home;home;home;home;home;home;"};
             switch (r.nextInt(5)) {
                 case 0:
                     text.insert(at, bits[r.nextInt(bits.length)]);
