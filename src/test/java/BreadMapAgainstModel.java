@@ -69,6 +69,54 @@ public final class BreadMapAgainstModel {
         }
 
         void go() throws Exception {
+            switch (number % 4) {
+                case 0:
+                    goTight();
+                    return;
+                case 1:
+                    goMaze();
+                    return;
+                default:
+                    goAnywhere();
+            }
+        }
+
+        /** Few CELLS and many COMPANIES: hardly a bite does not matter, so pairs of them do. */
+        void goTight() throws Exception {
+            while (calls.size() < 420 && wrong < 20) {
+                text("land", Texts.tight(random));
+                for (int i = roll(3); i > 0; i--) {
+                    call(method(roll(2) == 0 ? "bite" : "mould"), 0, roll(model.land.wide), roll(model.land.rows));
+                }
+                for (int what = 0; what < 4; what++) {
+                    call(method("supper"), 0, 2, what);
+                    call(method("supper"), 0, 1, what);
+                    call(method("mostWorth"), 0, what);
+                    call(method("worth"), 0, roll(model.land.wide), roll(model.land.rows));
+                }
+            }
+        }
+
+        /** Many CELLS, some of which are shut: rows through them get in one another's way. */
+        void goMaze() throws Exception {
+            while (calls.size() < 330 && wrong < 20) {
+                text("land", Texts.maze(random));
+                for (int i = roll(12); i > 0; i--) {
+                    call(method(roll(3) == 0 ? "mould" : "bite"), 0, roll(model.land.wide), roll(model.land.rows));
+                }
+                for (int company = 0; company < model.land.companies.size(); company++) {
+                    call(method("cut"), company);
+                    call(method("way"), company);
+                    for (int k = 1; k < 7; k++) {
+                        call(method("wayAt"), k, roll(2));
+                    }
+                    call(method("truly"), company);
+                    call(method("best"), company);
+                }
+            }
+        }
+
+        void goAnywhere() throws Exception {
             if (roll(10) > 0) {
                 text("land", Texts.land(random, roll(4) == 0));
             }
@@ -285,6 +333,44 @@ public final class BreadMapAgainstModel {
                     + " " + r.nextInt(rows) + (r.nextInt(2) == 0 ? " by " + r.nextInt(copies) : ""));
             }
             return join(r, parts, spoil);
+        }
+
+        static String tight(Random r) {
+            int wide = 2 + r.nextInt(3);
+            int rows = wide == 4 ? 2 : 2 + r.nextInt(2);
+            StringBuilder text = new StringBuilder(rows(r, wide, rows, "pprrhf"));
+            int companies = 1 + r.nextInt(3);
+            for (int i = 0; i < companies; i++) {
+                text.append(company(r, i, wide, rows));
+            }
+            return text.toString();
+        }
+
+        static String maze(Random r) {
+            int wide = 5 + r.nextInt(4);
+            int rows = 4 + r.nextInt(3);
+            StringBuilder text = new StringBuilder(rows(r, wide, rows, "pprrrrrrw"));
+            for (int i = 0; i < 6; i++) {
+                text.append(company(r, i, wide, rows));
+            }
+            return text.toString();
+        }
+
+        static String rows(Random r, int wide, int rows, String letters) {
+            StringBuilder text = new StringBuilder("wide " + wide + ";");
+            for (int y = 0; y < rows; y++) {
+                text.append("row ");
+                for (int x = 0; x < wide; x++) {
+                    text.append(letters.charAt(r.nextInt(letters.length())));
+                }
+                text.append(';');
+            }
+            return text.toString();
+        }
+
+        static String company(Random r, int i, int wide, int rows) {
+            return "company " + "abcdef".charAt(i) + " at " + r.nextInt(wide) + " " + r.nextInt(rows) + " to " + r.nextInt(wide) + " "
+                + r.nextInt(rows) + ";";
         }
 
         static String orders(Random r, Model model, boolean spoil) {

@@ -296,6 +296,16 @@ public final class BreadMapPromises {
         due("the first bytes are blanks, then comes a 0", x.fault(1), 4);
         due("the tape is empty", x.feed(0, 0, 0, 0, 0), 20);
 
+        for (int i = 0; i < 45; i++) {
+            x.feed(0x3b3b3b3b, 0x3b3b3b3b, 0x3b3b3b3b, 0x3b3b3b3b, 0x3b3b3b3b);
+        }
+        x.land(0);
+        for (int i = 0; i < 45; i++) {
+            x.feed(0x3b3b3b3b, 0x3b3b3b3b, 0x3b3b3b3b, 0x3b3b3b3b, 0x3b3b3b3b);
+        }
+        refused("900 tokens", x.land(900), 10);
+        due("the first one", x.fault(1), 0);
+
         fresh(10, SMALL);
         refused("more than the tape has", x.land(1), 5);
         refused("below 0", x.land(-1), 5);
@@ -452,6 +462,15 @@ public final class BreadMapPromises {
         ordersFault("steam 0 to ", "2;", 4);
         ordersFault("steam 0 ", "by 1;", 2);
         ordersFault("mouse 0 by ", "13;", 4);
+        ordersFault("mouse ", "2 by 3;", 4);
+        ordersFault("steam ", "2 to 1;", 4);
+        ordersFault("honey ", "2 at 0 0;", 4);
+        StringBuilder empty = new StringBuilder();
+        for (int i = 0; i < 27; i++) {
+            empty.append("loop 1;end;");
+        }
+        ordersTaken(empty.toString(), 27);
+        due("all of them are done", x.run(0), 27);
         ordersFault("mouse 0 ", "to 3;", 2);
         ordersFault("march ", "dan;", 3);
         ordersFault("march ", "abcdefghi;", 2);
