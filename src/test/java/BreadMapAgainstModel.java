@@ -349,7 +349,7 @@ public final class BreadMapAgainstModel {
         static String maze(Random r) {
             int wide = 5 + r.nextInt(4);
             int rows = 4 + r.nextInt(3);
-            StringBuilder text = new StringBuilder(rows(r, wide, rows, "pprrrrrrw"));
+            StringBuilder text = new StringBuilder(rows(r, wide, rows, r.nextInt(2) == 0 ? "pprrrrrrw" : "ppppppw"));
             for (int i = 0; i < 6; i++) {
                 text.append(company(r, i, wide, rows));
             }

@@ -892,6 +892,11 @@ public final class BreadMapPromises {
         x.bite(0, 0, 2);
         refused("no way", x.cut(0), 9);
 
+        land("wide 6;row pppppp;row pppppp;row ppwppp;row ppppwp;company a at 2 1 to 4 2;");
+        due("three rows that must make room for one another", x.cut(0), 3);
+        land("wide 8;row pppppppp;row ppwppppw;row ppppwppp;row pppppppp;row pppppppp;row pppwpwpp;company a at 1 3 to 6 2;");
+        due("four rows that must", x.cut(0), 4);
+
         fresh(37, SMALL);
         due("ahead of ann", x.worth(0, 1, 0), 3);
         due("not on her way", x.worth(0, 0, 1), 0);
