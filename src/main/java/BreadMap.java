@@ -760,7 +760,7 @@ public final class BreadMap {
         }
     }
 
-    /** The bytes that were fed, and the TOKENS of a TEXT at their beginning, one at a time. */
+    /** The bytes that were fed, and the TOKENS of a TEXT at their beginning, gone through one by one. */
     private static final class Tape {
         static final int LONGEST = 900;
         static final int PER_FEED = 20;
@@ -807,7 +807,7 @@ public final class BreadMap {
         static final int END = 20;
         static final int STOP = 21;
 
-        final byte[] bytes = new byte[LONGEST];
+        private final byte[] bytes = new byte[LONGEST];
         int length;
         /** By TOKEN; the last one is THE_END, or UNKNOWN, behind which nothing is looked at. */
         private final int[] kinds = new int[LONGEST + 1];
@@ -841,7 +841,6 @@ public final class BreadMap {
             fault = 0;
             place = NONE;
             int from = 0;
-            kinds[0] = UNKNOWN;
             for (int token = 0; token <= LONGEST; token++) {
                 scanToken(token, from, textEnd);
                 from = ends[token];
@@ -1741,7 +1740,8 @@ public final class BreadMap {
         /** The weight of the cheapest row from each CELL to the goal. */
         private final int[] far = new int[Land.CELLS];
         private final int[] queue = new int[QUEUE];
-        private final boolean[] queued = new boolean[Land.CELLS];
+        /** The CELLS in the queue, as a set. */
+        private long waiting;
         private int queueHead;
         private int queueTail;
         /** The CELLS of the row traced last: from the first on, steps more. */
@@ -1781,7 +1781,7 @@ public final class BreadMap {
         /** The least cost from one CELL to another, or NONE. */
         int measure(Land land, int from, int to) {
             Arrays.fill(far, TOO_FAR);
-            Arrays.fill(queued, false);
+            waiting = 0;
             queueHead = 0;
             queueTail = 0;
             reachCell(to, 0);
@@ -1789,7 +1789,7 @@ public final class BreadMap {
             for (int taken = 0; taken < Land.CELLS * Land.CELLS && queueHead != queueTail; taken++) {
                 int cell = queue[queueHead];
                 queueHead = queueHead + 1 & QUEUE - 1;
-                queued[cell] = false;
+                waiting &= ~(1L << cell);
                 int weight = far[cell] + cost[cell] * COST_WEIGHT + 1;
                 for (int direction = 0; direction < 4 && cost[cell] > 0; direction++) {
                     int near = land.beside(cell, direction);
@@ -1804,8 +1804,8 @@ public final class BreadMap {
 
         private void reachCell(int cell, int weight) {
             far[cell] = weight;
-            if (!queued[cell]) {
-                queued[cell] = true;
+            if ((waiting >>> cell & 1L) == 0) {
+                waiting |= 1L << cell;
                 queue[queueTail] = cell;
                 queueTail = queueTail + 1 & QUEUE - 1;
             }
@@ -2022,9 +2022,10 @@ public final class BreadMap {
         private int[] cost;
         private int from;
         private int to;
-        /** Whether a row goes through a CELL, and from a CELL on to that beside it. */
-        private final boolean[] passed = new boolean[Land.CELLS];
-        private final boolean[] linked = new boolean[4 * Land.CELLS];
+        /** The CELLS that a row goes through, as a set. */
+        private long passed;
+        /** By CELL the directions in which a row goes on from it, as a set. */
+        private final int[] onward = new int[Land.CELLS];
         private final int[] cameFrom = new int[KNOTS];
         private final int[] queue = new int[KNOTS];
         private int queued;
@@ -2034,8 +2035,8 @@ public final class BreadMap {
             cost = costs;
             from = start;
             to = goal;
-            Arrays.fill(passed, false);
-            Arrays.fill(linked, false);
+            passed = 0;
+            Arrays.fill(onward, 0);
             int rows = 0;
             // There are no more rows than a CELL has neighbours.
             for (int turn = 0; turn < 4 && findRow(); turn++) {
@@ -2055,6 +2056,14 @@ public final class BreadMap {
 
         private static int turned(int direction) {
             return direction + 2 & 3;
+        }
+
+        private boolean isPassed(int cell) {
+            return (passed >>> cell & 1L) != 0;
+        }
+
+        private boolean goesOn(int cell, int direction) {
+            return (onward[cell] >>> direction & 1) != 0;
         }
 
         private boolean findRow() {
@@ -2083,22 +2092,22 @@ public final class BreadMap {
         private void goOut(int cell) {
             for (int direction = 0; direction < 4; direction++) {
                 int near = land.beside(cell, direction);
-                if (near != NONE && near != from && cost[near] > 0 && !linked[4 * cell + direction]) {
+                if (near != NONE && near != from && cost[near] > 0 && !goesOn(cell, direction)) {
                     come(doorIn(near), doorOut(cell));
                 }
             }
-            if (passed[cell]) {
+            if (isPassed(cell)) {
                 come(doorIn(cell), doorOut(cell));
             }
         }
 
         private void goIn(int cell) {
-            if (!passed[cell]) {
+            if (!isPassed(cell)) {
                 come(doorOut(cell), doorIn(cell));
             }
             for (int direction = 0; direction < 4; direction++) {
                 int near = land.beside(cell, direction);
-                if (near != NONE && linked[4 * near + turned(direction)]) {
+                if (near != NONE && goesOn(near, turned(direction))) {
                     come(doorOut(near), doorIn(cell));
                 }
             }
@@ -2121,15 +2130,15 @@ public final class BreadMap {
             int b = knot >> 1;
             boolean outwards = before == doorOut(a);
             if (a == b) {
-                passed[a] = !outwards;
+                passed = outwards ? passed & ~(1L << a) : passed | 1L << a;
                 return;
             }
             for (int direction = 0; direction < 4; direction++) {
                 if (outwards && land.beside(a, direction) == b) {
-                    linked[4 * a + direction] = true;
+                    onward[a] |= 1 << direction;
                 }
                 if (!outwards && land.beside(b, direction) == a) {
-                    linked[4 * b + direction] = false;
+                    onward[b] &= ~(1 << direction);
                 }
             }
         }
