@@ -5,111 +5,12 @@ import java.lang.reflect.Modifier;
 import java.util.TreeSet;
 
 /** For each promise of the document what it says, its edges and wrong inputs, with answers found by hand. */
-public final class BreadMapPromises {
-    private static final long NONE = -1;
+public final class BreadMapPromises extends Checks {
     /** 4 wide, 3 rows, 2 copies; ann by 0, bob by 1, cid who is there. */
     private static final String SMALL = "wide 4;row prrp;row hwfp;row pppr;rise 3 0 by 2;copies 2;"
         + "company ann at 0 0 to 3 2;company bob at 0 2 to 3 0 by 1;company cid at 1 2 to 1 2;";
     private static final String PLAINS = "wide 5;row ppppp;row ppppp;row ppppp;row ppppp;row ppppp;copies 3;"
         + "company mid at 2 2 to 0 0;company far at 0 0 to 4 4;company bye at 0 0 to 0 0;";
-
-    private static int wrong = 0;
-    private static int asked = 0;
-    private static int promise = 0;
-    private static BreadMap x = new BreadMap();
-
-    private static void due(String what, long got, long want) {
-        asked++;
-        if (got != want) {
-            wrong++;
-            System.out.println("promise " + promise + ": " + what + " answered " + got + ", due is " + want);
-        }
-    }
-
-    private static void due(String what, boolean got, boolean want) {
-        due(what, got ? 1 : 0, want ? 1 : 0);
-    }
-
-    /** The call before must have had this STATUS. */
-    private static void status(String what, int want) {
-        due("status() behind " + what, x.status(), want);
-    }
-
-    private static void refused(String what, long got, int status) {
-        due(what, got, NONE);
-        status(what, status);
-    }
-
-    private static void refused(String what, boolean got, int status) {
-        due(what, got, false);
-        status(what, status);
-    }
-
-    private static void fraction(String what, boolean got, long top, long bottom) {
-        due(what, got, true);
-        status(what, 0);
-        due("top() behind " + what, x.top(), top);
-        due("bottom() behind " + what, x.bottom(), bottom);
-    }
-
-    private static void feed(String text) {
-        StringBuilder padded = new StringBuilder(text);
-        while (padded.length() % 20 != 0) {
-            padded.append(' ');
-        }
-        for (int i = 0; i < padded.length(); i += 20) {
-            int[] v = new int[5];
-            for (int k = 0; k < 20; k++) {
-                v[k / 4] = v[k / 4] << 8 | padded.charAt(i + k) & 255;
-            }
-            x.feed(v[0], v[1], v[2], v[3], v[4]);
-        }
-    }
-
-    private static int land(String text) {
-        feed(text);
-        return x.land(text.length());
-    }
-
-    private static int orders(String text) {
-        feed(text);
-        return x.orders(text.length());
-    }
-
-    private static void fresh(int number, String land) {
-        promise = number;
-        x = new BreadMap();
-        if (land != null && land(land) == NONE) {
-            wrong++;
-            System.out.println("promise " + number + ": the land was not taken, fault " + x.fault(0) + " at " + x.fault(1));
-        }
-    }
-
-    /** A LAND with a FAULT: its kind and place. */
-    private static void landFault(String text, int kind, int at) {
-        refused("land of '" + text + "'", land(text), 10);
-        due("fault(0) of '" + text + "'", x.fault(0), kind);
-        due("fault(1) of '" + text + "'", x.fault(1), at);
-    }
-
-    private static void landFault(String good, String bad, int kind) {
-        landFault(good + bad, kind, good.length());
-    }
-
-    private static void ordersFault(String text, int kind, int at) {
-        refused("orders of '" + text + "'", orders(text), 10);
-        due("fault(0) of '" + text + "'", x.fault(0), kind);
-        due("fault(1) of '" + text + "'", x.fault(1), at);
-    }
-
-    private static void ordersFault(String good, String bad, int kind) {
-        ordersFault(good + bad, kind, good.length());
-    }
-
-    private static void ordersTaken(String text, int steps) {
-        due("orders of '" + text + "'", orders(text), steps);
-        status("orders", 0);
-    }
 
     public static void main(String[] args) throws Exception {
         face();
@@ -130,10 +31,7 @@ public final class BreadMapPromises {
         arriving();
         marks();
         keptAcrossLands();
-        System.out.println(wrong == 0 ? asked + " answers are as due" : wrong + " answers are not as due");
-        if (wrong != 0) {
-            System.exit(1);
-        }
+        tell();
     }
 
     private static void face() {
