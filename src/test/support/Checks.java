@@ -1,6 +1,14 @@
+import java.lang.reflect.InvocationTargetException;
+import java.lang.reflect.Method;
+import java.util.List;
+
 /** What the project's tests share: one object at a time, what is due of it, texts by feed(). */
 abstract class Checks {
     static final long NONE = -1;
+    /** In the document's order: that of the constructor is promise 1. */
+    private static final List<String> CALLS = List.of(("status top bottom tray write read pour feed land orders fault many ground cell shows"
+        + " company bite mould honey clean steam unlike count hole way wayAt march stuck truly best hand reach seen supper cut worth"
+        + " mostWorth told halves odds mean run ran arrivals mark back").split(" "));
 
     static int wrong = 0;
     static int asked = 0;
@@ -8,9 +16,13 @@ abstract class Checks {
     /** The document's words that are looked at; empty where the promise says enough. */
     static String words = "";
     static BreadMap x = new BreadMap();
+    /** About how many calls were made on it, and the text of its LAND. */
+    private static int used = 0;
+    private static String landText = null;
 
     static void due(String what, long got, long want) {
         asked++;
+        used++;
         if (got != want) {
             complain(what + " answered " + got + ", due is " + want);
         }
@@ -56,6 +68,38 @@ abstract class Checks {
         due("bottom() behind " + what, x.bottom(), bottom);
     }
 
+    static int promiseOf(String call) {
+        return 2 + CALLS.indexOf(call);
+    }
+
+    private static Method method(String call) {
+        for (Method m : BreadMap.class.getDeclaredMethods()) {
+            if (m.getName().equals(call)) {
+                return m;
+            }
+        }
+        throw new IllegalArgumentException(call);
+    }
+
+    static boolean isYesOrNo(String call) {
+        return method(call).getReturnType() == boolean.class;
+    }
+
+    /** What a call by its name answers, yes and no as 1 and 0. */
+    static long answer(BreadMap map, String call, long... args) {
+        Method m = method(call);
+        Object[] given = new Object[args.length];
+        for (int i = 0; i < args.length; i++) {
+            given[i] = m.getParameterTypes()[i] == long.class ? (Object) args[i] : (Object) (int) args[i];
+        }
+        try {
+            Object got = m.invoke(map, given);
+            return got instanceof Boolean ? (Boolean) got ? 1 : 0 : ((Number) got).longValue();
+        } catch (InvocationTargetException | IllegalAccessException e) {
+            throw new IllegalStateException(call + " threw " + e.getCause());
+        }
+    }
+
     static void feed(String text) {
         feed(x, text);
     }
@@ -72,6 +116,7 @@ abstract class Checks {
                 v[k / 4] = v[k / 4] << 8 | padded.charAt(i + k) & 255;
             }
             map.feed(v[0], v[1], v[2], v[3], v[4]);
+            used++;
         }
     }
 
@@ -88,8 +133,17 @@ abstract class Checks {
     static void fresh(int number, String land) {
         promise = number;
         x = new BreadMap();
+        used = 0;
+        landText = land;
         if (land != null && land(land) == NONE) {
             complain("the land was not taken, fault " + x.fault(0) + " at " + x.fault(1));
+        }
+    }
+
+    /** Texts are tried one by one on an object that is good for 512 calls; then another one goes on. */
+    private static void spare() {
+        if (used > 350) {
+            fresh(promise, landText);
         }
     }
 
@@ -101,6 +155,7 @@ abstract class Checks {
 
     /** A LAND with a FAULT: its kind and place. */
     static void landFault(String text, int kind, int at) {
+        spare();
         refused("land of '" + text + "'", land(text), 10);
         due("fault(0) of '" + text + "'", x.fault(0), kind);
         due("fault(1) of '" + text + "'", x.fault(1), at);
@@ -112,6 +167,7 @@ abstract class Checks {
     }
 
     static void ordersFault(String text, int kind, int at) {
+        spare();
         refused("orders of '" + text + "'", orders(text), 10);
         due("fault(0) of '" + text + "'", x.fault(0), kind);
         due("fault(1) of '" + text + "'", x.fault(1), at);
@@ -122,12 +178,15 @@ abstract class Checks {
     }
 
     static void landTaken(String text, int companies) {
+        spare();
+        landText = text;
         taken("land of '" + text + "'", land(text), companies);
         due("fault(0) of '" + text + "'", x.fault(0), 0);
         due("fault(1) of '" + text + "'", x.fault(1), NONE);
     }
 
     static void ordersTaken(String text, int steps) {
+        spare();
         taken("orders of '" + text + "'", orders(text), steps);
         due("fault(0) of '" + text + "'", x.fault(0), 0);
         due("fault(1) of '" + text + "'", x.fault(1), NONE);
