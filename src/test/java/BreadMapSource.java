@@ -1,6 +1,13 @@
+import java.lang.reflect.Field;
+import java.lang.reflect.Method;
+import java.lang.reflect.Modifier;
 import java.nio.charset.StandardCharsets;
 import java.nio.file.Files;
 import java.nio.file.Path;
+import java.util.ArrayList;
+import java.util.HashSet;
+import java.util.List;
+import java.util.Set;
 import java.util.regex.Matcher;
 import java.util.regex.Pattern;
 
@@ -29,9 +36,39 @@ public final class BreadMapSource {
         constants(code);
         classes(code);
         methods(source);
+        members();
         System.out.println(wrong == 0 ? "the source keeps to what was looked at" : wrong + " places do not");
         if (wrong != 0) {
             System.exit(1);
+        }
+    }
+
+    /** Rules 1, 3 and 11, by the classes as they were compiled. */
+    private static void members() {
+        Set<String> face = new HashSet<>();
+        for (Method m : BreadMap.class.getDeclaredMethods()) {
+            if (Modifier.isPublic(m.getModifiers())) {
+                face.add(m.getName());
+            }
+        }
+        List<Class<?>> all = new ArrayList<>(List.of(BreadMap.class.getDeclaredClasses()));
+        all.add(BreadMap.class);
+        for (Class<?> c : all) {
+            for (Method m : c.getDeclaredMethods()) {
+                if ((c != BreadMap.class || !Modifier.isPublic(m.getModifiers())) && face.contains(m.getName())) {
+                    complain("rule 1: " + c.getSimpleName() + "." + m.getName() + " bears the name of a public one");
+                }
+            }
+            int fields = 0;
+            for (Field f : c.getDeclaredFields()) {
+                fields += Modifier.isStatic(f.getModifiers()) ? 0 : 1;
+                if (Modifier.isStatic(f.getModifiers()) && !Modifier.isFinal(f.getModifiers()) && !f.getName().startsWith("$")) {
+                    complain("rule 5: " + c.getSimpleName() + "." + f.getName() + " is not final");
+                }
+            }
+            if (fields > 20) {
+                complain("rule 11: " + c.getSimpleName() + " has " + fields + " fields");
+            }
         }
     }
 
