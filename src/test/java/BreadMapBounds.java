@@ -418,6 +418,10 @@ public final class BreadMapBounds extends Checks {
         way("wide 3;row rrr;row pfp;row rrr;rise 1 1 by 1;company a at 0 1 to 2 1;", 5, "drru");
         way("wide 2;row pp;row rr;company a at 0 0 to 1 0;", 2, "r");
         way("wide 3;row ppp;row rrr;company a at 0 0 to 2 0;", 4, "rr");
+        way("wide 7;row wprrppw;row rrrpwrw;company a at 5 1 to 2 1;", 7, "ullld");
+        way("wide 7;row hhffhrh;row ffprprr;company a at 0 1 to 6 0;", 14, "rrrrrru");
+        taken("8 more round the first ford", x.worth(0, 1, 1), 8);
+        taken("that is the most", x.mostWorth(0, 1), 8);
         words = "as long a row as there may be";
         way("wide 8;row rrrrrrrr;row wwwwwwwr;row rrrrrrrr;row rwwwwwww;row rrrrrrrr;row wwwwwwww;company a at 0 0 to 7 4;", 25,
             "rrrrrrrddlllllllddrrrrrrr");
@@ -447,7 +451,12 @@ public final class BreadMapBounds extends Checks {
                 due("reach", x.reach(), can ? 7 : 3);
             }
         }
-        words = "9: it has none";
+        sentence(31, "the cheapest row of CELLS by the ground itself", "wide 2;row rp;row pw;company a at 1 0 to 0 1;");
+        taken("by way of the first cell", x.best(0), 3);
+        x.bite(0, 0, 0);
+        refused("by its copy there is no way", x.way(0), 9);
+        taken("by the ground there is", x.best(0), 3);
+        sentence(26, "9: it has none", null);
         landTaken("wide 3;row pwp;row wwp;company a at 0 0 to 2 0;company b at 2 0 to 2 1;", 2);
         refused("way", x.way(0), 9);
         taken("way", x.way(1), 2);
@@ -604,6 +613,10 @@ public final class BreadMapBounds extends Checks {
         landTaken("wide 3;row pfp;row rrr;rise 1 0 by 1;company a at 0 0 to 2 0;", 1);
         supper(1, 1, 5, 1);
         supper(2, 1, 6, 3, 4);
+        words = "each two CELLS by themselves";
+        landTaken("wide 4;row rrpr;row pprr;company a at 0 0 to 2 1;", 1);
+        supper(1, 1, 4, 2);
+        supper(2, 1, 4, 2, 3);
         words = "of several the first by CELLS (by numbers: WIDE times y and x)";
         landTaken("wide 3;row ppp;row ppp;row ppp;company a at 1 1 to 1 1;company b at 0 0 to 0 0;", 2);
         supper(1, 2, 0, 1);
@@ -640,6 +653,15 @@ public final class BreadMapBounds extends Checks {
         cut(2, "wide 2;row pp;row pp;company a at 0 0 to 1 1;");
         cut(1, "wide 2;row pp;row pw;row pp;company a at 1 0 to 1 2;");
         cut(1, "wide 3;row pwp;row ppp;company a at 0 0 to 2 0;");
+        words = "one CELL that all rows go through parts them all";
+        cut(1, "wide 3;row ppw;row ppp;row wpp;company a at 0 0 to 2 2;");
+        cut(1, "wide 5;row wpwpw;row ppppp;row wpwpw;company a at 0 1 to 4 1;");
+        cut(2, "wide 3;row rpw;row prr;row rrp;company a at 1 2 to 0 1;");
+        words = "whatever it costs to come into a CELL";
+        for (String row : new String[] {"row rrr;", "row hhh;", "row fff;"}) {
+            cut(3, "wide 3;" + times(3, row) + "rise 1 1 by 9;company a at 0 1 to 2 1;");
+        }
+        cut(2, "wide 3;row wfp;row pfr;row phr;company a at 2 0 to 0 1;");
         words = "by what its COPY SHOWS";
         landTaken("wide 3;row pwp;row ppp;copies 2;company a at 0 0 to 2 0 by 1;", 1);
         x.bite(0, 1, 1);
@@ -692,7 +714,15 @@ public final class BreadMapBounds extends Checks {
         taken("a detour of 9 more", x.worth(0, 1, 1), 14 - 5);
         taken("not on its way", x.worth(0, 1, 0), 0);
         taken("the first of the roads", x.worth(0, 0, 1), 9);
+        words = "each CELL by itself, whatever the others are worth";
+        landTaken("wide 5;row rrrrr;row hhhhh;company a at 0 0 to 4 0;", 1);
+        for (int cell = 1; cell < 4; cell++) {
+            taken("round one road", x.worth(0, cell, 0), 15 - 4);
+        }
         promise = 38;
+        taken("all are worth as much", x.mostWorth(0, 1), 11);
+        taken("the first", x.mostWorth(0, 0), 1);
+        landTaken("wide 3;row pfp;row rrr;rise 1 0 by 9;company a at 0 0 to 2 0;company b at 1 1 to 1 1;", 2);
         words = "of several the first (not those in which a COMPANY by it is or would come)";
         taken("most worth", x.mostWorth(0, 0), 3);
         taken("its worth", x.mostWorth(0, 1), 9);

@@ -33,6 +33,7 @@ public final class BreadMapRefusals extends Checks {
         tapes();
         faults();
         asking();
+        behindRefused();
         tell();
     }
 
@@ -637,5 +638,62 @@ public final class BreadMapRefusals extends Checks {
             due("status() behind " + call, map.status(), 5);
             compare(call, Portrait.of(map), nothing);
         }
+    }
+
+    // ---- calls that are taken where the one ahead was not
+
+    private static void behindRefused() {
+        words = "STATUS 0 else";
+        set(BreadMapRefusals::furnish);
+        fine("tray", 3, 3, 60);
+        fine("write", 0, 4, -1);
+        fine("read", 1, 2);
+        fine("pour", 0, 0, 1, 0, 3);
+        fine("land", 14);
+        fine("orders", 0);
+        fine("many", 5);
+        fine("ground", 0, 0, 1);
+        fine("cell", 0, 1, 1);
+        fine("shows", 0, 1, 1);
+        fine("company", 0, 5);
+        fine("bite", 0, 0, 0);
+        fine("mould", 0, 0, 0);
+        fine("honey", 0, 0, 0);
+        fine("clean", 0, 3, 0);
+        fine("steam", 0, 1);
+        fine("unlike", 0, 0);
+        fine("count", 0, 0);
+        fine("hole", 0);
+        fine("way", 2);
+        fine("wayAt", 0, 0);
+        fine("march", 2);
+        fine("stuck");
+        fine("truly", 2);
+        fine("best", 2);
+        fine("hand", 0, 0);
+        fine("reach");
+        fine("seen", 2, 0);
+        fine("supper", 0, 1, 1);
+        fine("cut", 0);
+        fine("worth", 0, 0, 0);
+        fine("mostWorth", 0, 1);
+        fine("told", 0, 0);
+        fine("halves", 0, 1, 1);
+        fine("odds", 0, 0, 3, 1, 0);
+        fine("mean", 0, 0, 0);
+        fine("run", 0);
+        fine("ran", 0);
+        fine("arrivals", 0, 0, 1);
+        fine("mark");
+        fine("back");
+    }
+
+    private static void fine(String call, long... args) {
+        BreadMap map = laid();
+        promise = promiseOf(call);
+        map.many(9);
+        due("status() behind many(9)", map.status(), 5);
+        answer(map, call, args);
+        due("status() behind " + call + Arrays.toString(args) + ", which is taken", map.status(), 0);
     }
 }
