@@ -708,7 +708,8 @@ public final class BreadMap {
         long laid = 1;
         int places = 0;
         for (int sort = 0; sort < TOLD_NUMBERS && sort < numbers.length; sort++) {
-            for (int i = 1; i <= numbers[sort]; i++) {
+            long many = Math.min(numbers[sort], Land.CELLS);
+            for (int i = 1; i <= many; i++) {
                 places++;
                 // A whole number each time, and never less than ahead: so it may be cut at once.
                 laid = laid * places / i;
